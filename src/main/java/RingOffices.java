@@ -22,7 +22,7 @@ public final class RingOffices {
     private static final int SLOTS = 2;
     private static final int TAPE_ROOM = 1200;
     private static final int APPENDED = 20;
-    // The longest setup text has 985 bytes, the longest list some 410.
+    // The longest setup text has 980 bytes, the longest list some 330.
     private static final int PAGE_ROOM = 1024;
 
     private static final int SPEAK = 0;
@@ -75,23 +75,17 @@ public final class RingOffices {
     private static final int NO_TOKEN = 10;
 
     private final State now = new State();
-    /** For what is only tried: setups that are being parsed and minutes that only might pass. */
-    private final State scratch = new State();
     private final History history = new History();
     private final Slots slots = new Slots();
-    private final Text tape = new Text(TAPE_ROOM);
+    private final SetupParser parser = new SetupParser();
+    private final Text tape = parser.scanner.text;
+    // A setup is parsed and read off in one call, so between calls the draft is free for what is only tried.
+    private final State scratch = parser.draft;
     private final Text page = new Text(PAGE_ROOM);
-    private final SetupParser parser = new SetupParser(tape, scratch);
     private int errorAt = NOT_FOUND;
 
     public RingOffices() {
-        put(now.rules, SPEAK, 6);
-        put(now.rules, QUIET, 10);
-        put(now.rules, QUOTA, 30);
-        now.offices.add(2, 40, 1);
-        now.offices.add(3, 70, 1);
-        now.offices.add(1, 20, 1);
-        now.tokens.add(0);
+        now.beginAsNew();
     }
 
     // ---- texts
@@ -116,7 +110,7 @@ public final class RingOffices {
         errorAt = parser.parse();
         tape.length = 0;
         if (errorAt != NOT_FOUND) return INVALID;
-        now.copyFrom(scratch);
+        now.copyFrom(parser.draft);
         slots.forget();
         history.forget();
         return now.offices.count;
@@ -844,6 +838,16 @@ public final class RingOffices {
             silence = other.silence;
         }
 
+        void beginAsNew() {
+            put(rules, SPEAK, 6);
+            put(rules, QUIET, 10);
+            put(rules, QUOTA, 30);
+            offices.add(2, 40, 1);
+            offices.add(3, 70, 1);
+            offices.add(1, 20, 1);
+            tokens.add(0);
+        }
+
         void clear() {
             for (int i = 0; i < COUNTS; i++) put(counts, i, 0);
             offices.count = 0;
@@ -858,7 +862,7 @@ public final class RingOffices {
         void shutOrOpen(int office, int isOpen) {
             put(offices.open, office, isOpen);
             log.add(LOG_SHUT, office, isOpen);
-            if (isOpen == 1) return;
+            // None stands at an office that is opened, since it was shut.
             int token = tokens.standingAt(office);
             if (token != NOT_FOUND) loseToken(token);
         }
@@ -1075,15 +1079,11 @@ public final class RingOffices {
 
     /** Finds the tokens of a setup text, one after the other. */
     private static final class Scanner {
-        final Text text;
+        final Text text = new Text(TAPE_ROOM);
         int start;
         int end;
         int kind;
         int number;
-
-        Scanner(Text itsText) {
-            text = itsText;
-        }
 
         void begin() {
             end = 0;
@@ -1159,14 +1159,9 @@ public final class RingOffices {
      * takeNumber: when no INT stands there, that number is an old one, but takeNumber refuses then anyway.
      */
     private static final class SetupParser {
-        final Scanner scanner;
-        final State draft;
+        final Scanner scanner = new Scanner();
+        final State draft = new State();
         int taken;
-
-        SetupParser(Text text, State itsDraft) {
-            scanner = new Scanner(text);
-            draft = itsDraft;
-        }
 
         /** Answers the error position, or NOT_FOUND when there is none. */
         int parse() {

@@ -17,6 +17,7 @@ public final class ForesightTest {
         ifShut();
         bestSpeak();
         leastQuota();
+        greatestQuota();
         nothingChanges();
         Check.end("ForesightTest");
     }
@@ -242,6 +243,29 @@ public final class ForesightTest {
         x.rule(2, 60);
         Check.due("bestSpeak: two in one turn", x.bestSpeak(25), 18);
         Check.due("bestSpeak: of several the smallest", x.bestSpeak(60), 9);
+        x.cancel(0, 2);
+        x.letter(0, 1, 2);
+        Check.due("bestSpeak: the greatest", x.bestSpeak(23), 20);
+    }
+
+    /** A letter that begins at 59 and is spoken from 60 on, and five more of 9: SPOKEN 54 at 118; then one of 6. */
+    private static void greatestQuota() {
+        RingOffices x = new RingOffices();
+        x.rule(0, 20);
+        x.rule(2, 60);
+        x.minute(58);
+        x.stray(0);
+        for (int i = 0; i < 6; i++) {
+            x.letter(0, 1, 9);
+            x.minute(10);
+            x.lose(x.token(0, 1) == 0 ? 0 : 1);
+            x.stray(0);
+        }
+        Check.due("TIME", x.value(3), 118);
+        Check.due("SPOKEN", x.office(0, 3), 54);
+        x.letter(0, 1, 6);
+        Check.due("doneIn", x.doneIn(), 7);
+        Check.due("leastQuota: the greatest", x.leastQuota(), 60);
     }
 
     private static void leastQuota() {

@@ -205,7 +205,9 @@ public final class LooksTest {
         Check.due("why: it speaks whatever the rules are now", x.why(0), 0);
         x.rule(0, 7);
         x.rule(2, 7);
-        x.minute(7);
+        x.minute(6);
+        Check.due("why: it speaks for one minute more", x.why(0), 0);
+        x.minute(1);
         Check.due("why: nothing is left of SPEAK", x.why(0), 4);
         x.rule(0, 8);
         Check.due("why: nothing is left of QUOTA", x.why(0), 5);

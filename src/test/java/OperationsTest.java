@@ -14,6 +14,7 @@ public final class OperationsTest {
         rule();
         keepAndRestore();
         undo();
+        undoOfTheLog();
         undoOfEachOperation();
         whatIsNoOperation();
         Check.end("OperationsTest");
@@ -71,9 +72,12 @@ public final class OperationsTest {
         x.minute(4);
         Check.due("cancel: being read out", x.token(0, 4), 2);
         refused("cancel: being read out", x, RingOffices.WRONG_STATE, r -> r.cancel(1, 0));
+        x.minute(1);
+        Check.due("cancel: in its last minute", x.token(0, 4), 1);
+        refused("cancel: in its last minute", x, RingOffices.WRONG_STATE, r -> r.cancel(1, 0));
         Check.due("cancel: the second while the first is read out", x.cancel(1, 1), 2);
         refused("cancel: NOT_FOUND comes first", x, RingOffices.NOT_FOUND, r -> r.cancel(1, 2));
-        x.minute(2);
+        x.minute(1);
         Check.due("cancel: a first letter that will begin only", x.cancel(1, 0), 0);
     }
 
@@ -274,6 +278,21 @@ public final class OperationsTest {
         x.letter(0, 1, 1);
         Check.due("undo what came behind", x.undo(), 2);
         Check.dueText("undo what came behind", Check.all(x), two);
+    }
+
+    private static void undoOfTheLog() {
+        RingOffices x = new RingOffices();
+        for (int i = 0; i < 45; i++) x.rule(1, i % 2 == 0 ? 11 + i : 1 + i);
+        x.keep(1);
+        String before = Check.all(x);
+        for (int i = 0; i < 7; i++) x.letter(i % 3, (i + 1) % 3, 1 + i);
+        x.minute(50);
+        Check.due("entries", x.value(19), 40);
+        for (int i = 7; i >= 0; i--) Check.due("undo", x.undo(), i);
+        Check.dueText("undo: the entries that had given way are back", Check.all(x), before);
+        for (int i = 0; i < 5; i++) x.set(0, 1, 1 + i);
+        x.restore(1);
+        Check.dueText("restore: the entries that had given way are back", Check.all(x), before);
     }
 
     private static void undone(String name, RingOffices x, Call call) {

@@ -15,6 +15,7 @@ public final class TextsTest {
         tooMany();
         list();
         setup();
+        longestTexts();
         Check.end("TextsTest");
     }
 
@@ -43,7 +44,9 @@ public final class TextsTest {
         Check.due("append: nothing is appended", x.truncate(0), 1200);
         Check.due("append: one byte less", x.truncate(1), 1199);
         Check.due("append: still too much", x.append(0, 0, 0, 0, 0), RingOffices.INVALID);
-        Check.due("append: room again", x.truncate(19), 1180);
+        Check.due("append: room again", x.truncate(18), 1181);
+        Check.due("append: one byte too much", x.append(0, 0, 0, 0, 0), RingOffices.INVALID);
+        Check.due("append: room again", x.truncate(1), 1180);
         Check.due("append: fits", x.append(-1, -1, -1, -1, -1), 1200);
         Check.due("append: load", x.load(), RingOffices.INVALID);
         Check.due("append: bytes 255 are none", x.errorPosition(), 1180);
@@ -100,6 +103,9 @@ public final class TextsTest {
         x.keep(1);
         x.lose(0);
         x.minute(12);
+        // What was only tried must leave nothing behind for a setup.
+        x.shut(0, 0);
+        x.ifPassed(30, 0);
         String text = TWO + "letter 0 1 3;letter 1 0 4;token 1;";
         Check.due("load: replaces", Check.load(x, text), 2);
         Check.dueText("load: as on a new object", Check.all(x), Check.all(Check.made(text)));
@@ -149,6 +155,8 @@ public final class TextsTest {
         fault("|;");
         fault("|office 1 1;");
         fault("|speaks 1 quiet");
+        fault("|speakz");
+        fault("|zpeak 1 quiet 1");
         fault("|Speak 1");
         fault("|s");
         fault("|spea k");
@@ -257,6 +265,9 @@ public final class TextsTest {
         StringBuilder again = new StringBuilder(TWO);
         for (int i = 0; i < 6; i++) again.append("letter 0 1 1;");
         Check.due("full queues of an earlier load do not count", Check.load(x, again.toString()), 2);
+        Check.load(x, ten);
+        Check.due("nor do open offices", Check.load(x, TWO + "token 2;"), RingOffices.INVALID);
+        Check.due("nor do open offices: errorPosition", x.errorPosition(), TWO.length() + 6);
     }
 
     private static void list() {
@@ -282,6 +293,27 @@ public final class TextsTest {
         x.letter(0, 1, 3);
         x.minute(2);
         Check.dueText("list: the LENGTH of what is being read out", Check.list(x), "0:40/3>1@1\n1:70\n2:20\n");
+    }
+
+    /** The longest texts that there are: 980 bytes of setup, ten lines of six letters each. */
+    private static void longestTexts() {
+        StringBuilder setup = new StringBuilder("speak 20 quiet 99 quota 60;");
+        for (int o = 0; o < 10; o++) setup.append("office 9 ").append(90 + o).append(o < 9 ? " shut;" : ";");
+        StringBuilder list = new StringBuilder();
+        for (int o = 0; o < 10; o++) {
+            list.append(o).append(':').append(90 + o).append(o < 9 ? "x" : "");
+            for (int i = 0; i < 6; i++) {
+                setup.append("letter ").append(o).append(' ').append((o + 1) % 10).append(" 9;");
+                list.append("/9>").append((o + 1) % 10);
+            }
+            list.append(o < 9 ? "\n" : "@1\n");
+        }
+        setup.append("token 9;");
+        RingOffices x = new RingOffices();
+        Check.due("the longest setup", Check.load(x, setup.toString()), 10);
+        Check.dueText("the longest setup", Check.setup(x), setup.toString());
+        Check.due("setupLength", x.setupLength(), 980);
+        Check.dueText("its list", Check.list(x), list.toString());
     }
 
     private static void setup() {

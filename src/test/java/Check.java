@@ -1,20 +1,57 @@
 /** What the tests share: counting wrong answers, and texts to and from an object. */
 final class Check {
+    static final int LEAST = Integer.MIN_VALUE;
+    static final int GREATEST = Integer.MAX_VALUE;
+
     private static int wrong = 0;
+    private static String sentence = "";
 
     private Check() {
+    }
+
+    /** Tells the sentence of the document to which the answers behind this call are due. */
+    static void about(String place, String itsSentence) {
+        sentence = place + " [" + itsSentence + "] ";
     }
 
     static void due(String call, double got, double want) {
         if (got == want) return;
         wrong++;
-        if (wrong <= 50) System.out.println(call + " answered " + got + ", due is " + want);
+        if (wrong <= 50) System.out.println(sentence + call + " answered " + got + ", due is " + want);
     }
 
     static void dueText(String call, String got, String want) {
         if (got.equals(want)) return;
         wrong++;
-        if (wrong <= 50) System.out.println(call + " answered [" + got + "], due is [" + want + "]");
+        if (wrong <= 50) System.out.println(sentence + call + " answered [" + got + "], due is [" + want + "]");
+    }
+
+    interface Call {
+        int on(RingOffices x);
+    }
+
+    /** A call that is refused or only tells something: its answer is due, and nothing else may be another then. */
+    static void refused(String name, RingOffices x, int want, Call call) {
+        String before = all(x);
+        int undoable = x.value(20);
+        due(name, call.on(x), want);
+        dueText(name + " changes nothing", all(x), before);
+        due(name + " is no operation", x.value(20), undoable);
+    }
+
+    /** A text in which a bar stands ahead of the first byte of what cannot stand there. */
+    static void fault(String marked) {
+        int position = marked.indexOf('|');
+        String text = marked.substring(0, position) + marked.substring(position + 1);
+        RingOffices x = new RingOffices();
+        due("load of [" + marked + "]", load(x, text), RingOffices.INVALID);
+        due("errorPosition of [" + marked + "]", x.errorPosition(), position);
+    }
+
+    static void good(String text, int offices) {
+        RingOffices x = new RingOffices();
+        due("load of [" + text + "]", load(x, text), offices);
+        due("errorPosition of [" + text + "]", x.errorPosition(), RingOffices.NOT_FOUND);
     }
 
     static int wrong() {
@@ -54,19 +91,22 @@ final class Check {
 
     static String list(RingOffices x) {
         StringBuilder text = new StringBuilder();
-        for (int i = 0; i < x.listLength(); i++) text.append((char) x.listByte(i));
+        int length = x.listLength();
+        for (int i = 0; i < length; i++) text.append((char) x.listByte(i));
         return text.toString();
     }
 
     static String setup(RingOffices x) {
         StringBuilder text = new StringBuilder();
-        for (int i = 0; i < x.setupLength(); i++) text.append((char) x.setupByte(i));
+        int length = x.setupLength();
+        for (int i = 0; i < length; i++) text.append((char) x.setupByte(i));
         return text.toString();
     }
 
     static String log(RingOffices x) {
         StringBuilder text = new StringBuilder();
-        for (int i = 0; i < x.value(19); i++) {
+        int entries = x.value(19);
+        for (int i = 0; i < entries; i++) {
             text.append(x.log(i, 0)).append(' ').append(x.log(i, 1)).append(' ').append(x.log(i, 2)).append(';');
         }
         return text.toString();
@@ -86,6 +126,8 @@ final class Check {
     static String all(RingOffices x) {
         StringBuilder text = new StringBuilder();
         for (int what = 0; what < 20; what++) text.append(x.value(what)).append(' ');
+        text.append(x.winner()).append(' ').append(x.round()).append(' ').append(x.busiest()).append(' ');
+        text.append(x.spoken()).append(' ').append(x.meanLength()).append(' ');
         for (int o = 0; o < x.value(4); o++) {
             for (int what = 0; what < 9; what++) text.append(x.office(o, what)).append(' ');
             for (int i = 0; i < x.office(o, 4); i++) {

@@ -20,34 +20,21 @@ public final class OperationsTest {
         Check.end("OperationsTest");
     }
 
-    /** A refused call: its answer, and nothing that can be told may be another then. */
-    private interface Call {
-        int on(RingOffices x);
-    }
-
-    private static void refused(String name, RingOffices x, int want, Call call) {
-        String before = Check.all(x);
-        int undoable = x.value(20);
-        Check.due(name, call.on(x), want);
-        Check.dueText(name + " changes nothing", Check.all(x), before);
-        Check.due(name + " is no operation", x.value(20), undoable);
-    }
-
     private static void letter() {
         RingOffices x = new RingOffices();
         for (int odd : new int[] {-1, 3, LEAST, GREATEST}) {
-            refused("letter: office", x, RingOffices.INVALID, r -> r.letter(odd, 1, 1));
-            refused("letter: to", x, RingOffices.INVALID, r -> r.letter(0, odd, 1));
+            Check.refused("letter: office", x, RingOffices.INVALID, r -> r.letter(odd, 1, 1));
+            Check.refused("letter: to", x, RingOffices.INVALID, r -> r.letter(0, odd, 1));
         }
-        for (int odd : new int[] {-1, 0, 10, LEAST, GREATEST}) refused("letter: length", x, RingOffices.INVALID, r -> r.letter(0, 1, odd));
-        refused("letter: twice the same", x, RingOffices.INVALID, r -> r.letter(2, 2, 1));
+        for (int odd : new int[] {-1, 0, 10, LEAST, GREATEST}) Check.refused("letter: length", x, RingOffices.INVALID, r -> r.letter(0, 1, odd));
+        Check.refused("letter: twice the same", x, RingOffices.INVALID, r -> r.letter(2, 2, 1));
         x.shut(1, 0);
         x.shut(2, 0);
         Check.due("letter from a shut office to a shut one", x.letter(1, 2, 9), 1);
         for (int i = 2; i <= 6; i++) Check.due("letter " + i, x.letter(1, 0, i), i);
-        refused("letter 7", x, RingOffices.FULL, r -> r.letter(1, 0, 1));
-        refused("letter 7: twice the same comes first", x, RingOffices.INVALID, r -> r.letter(1, 1, 1));
-        refused("letter 7: a LENGTH of 0 comes first", x, RingOffices.INVALID, r -> r.letter(1, 0, 0));
+        Check.refused("letter 7", x, RingOffices.FULL, r -> r.letter(1, 0, 1));
+        Check.refused("letter 7: twice the same comes first", x, RingOffices.INVALID, r -> r.letter(1, 1, 1));
+        Check.refused("letter 7: a LENGTH of 0 comes first", x, RingOffices.INVALID, r -> r.letter(1, 0, 0));
         Check.due("another queue", x.letter(0, 2, 1), 1);
         Check.due("letters that came", x.value(10), 7);
         Check.dueText("letter: log", Check.log(x), "7 1 0;7 2 0;0 1 9;0 1 2;0 1 3;0 1 4;0 1 5;0 1 6;0 0 1;");
@@ -57,12 +44,12 @@ public final class OperationsTest {
     private static void cancel() {
         RingOffices x = new RingOffices();
         for (int length = 1; length <= 6; length++) x.letter(1, 0, length);
-        for (int odd : new int[] {-1, 3, LEAST, GREATEST}) refused("cancel: office", x, RingOffices.INVALID, r -> r.cancel(odd, 0));
-        refused("cancel: -1", x, RingOffices.INVALID, r -> r.cancel(1, -1));
-        refused("cancel: least", x, RingOffices.INVALID, r -> r.cancel(1, LEAST));
-        refused("cancel: 6", x, RingOffices.NOT_FOUND, r -> r.cancel(1, 6));
-        refused("cancel: greatest", x, RingOffices.NOT_FOUND, r -> r.cancel(1, GREATEST));
-        refused("cancel: nothing there", x, RingOffices.NOT_FOUND, r -> r.cancel(0, 0));
+        for (int odd : new int[] {-1, 3, LEAST, GREATEST}) Check.refused("cancel: office", x, RingOffices.INVALID, r -> r.cancel(odd, 0));
+        Check.refused("cancel: -1", x, RingOffices.INVALID, r -> r.cancel(1, -1));
+        Check.refused("cancel: least", x, RingOffices.INVALID, r -> r.cancel(1, LEAST));
+        Check.refused("cancel: 6", x, RingOffices.NOT_FOUND, r -> r.cancel(1, 6));
+        Check.refused("cancel: greatest", x, RingOffices.NOT_FOUND, r -> r.cancel(1, GREATEST));
+        Check.refused("cancel: nothing there", x, RingOffices.NOT_FOUND, r -> r.cancel(0, 0));
         Check.due("cancel: in the middle", x.cancel(1, 2), 5);
         Check.due("cancel: the last one", x.cancel(1, 4), 4);
         Check.due("cancel: the first one", x.cancel(1, 0), 3);
@@ -71,21 +58,21 @@ public final class OperationsTest {
         Check.dueText("cancel: log", Check.log(x).substring(36), "9 1 3;9 1 6;9 1 1;");
         x.minute(4);
         Check.due("cancel: being read out", x.token(0, 4), 2);
-        refused("cancel: being read out", x, RingOffices.WRONG_STATE, r -> r.cancel(1, 0));
+        Check.refused("cancel: being read out", x, RingOffices.WRONG_STATE, r -> r.cancel(1, 0));
         x.minute(1);
         Check.due("cancel: in its last minute", x.token(0, 4), 1);
-        refused("cancel: in its last minute", x, RingOffices.WRONG_STATE, r -> r.cancel(1, 0));
+        Check.refused("cancel: in its last minute", x, RingOffices.WRONG_STATE, r -> r.cancel(1, 0));
         Check.due("cancel: the second while the first is read out", x.cancel(1, 1), 2);
-        refused("cancel: NOT_FOUND comes first", x, RingOffices.NOT_FOUND, r -> r.cancel(1, 2));
+        Check.refused("cancel: NOT_FOUND comes first", x, RingOffices.NOT_FOUND, r -> r.cancel(1, 2));
         x.minute(1);
         Check.due("cancel: a first letter that will begin only", x.cancel(1, 0), 0);
     }
 
     private static void shut() {
         RingOffices x = new RingOffices();
-        for (int odd : new int[] {-1, 3, LEAST, GREATEST}) refused("shut: office", x, RingOffices.INVALID, r -> r.shut(odd, 0));
-        for (int odd : new int[] {-1, 2, LEAST, GREATEST}) refused("shut: isOpen", x, RingOffices.INVALID, r -> r.shut(0, odd));
-        refused("shut: it is open", x, RingOffices.NOT_FOUND, r -> r.shut(0, 1));
+        for (int odd : new int[] {-1, 3, LEAST, GREATEST}) Check.refused("shut: office", x, RingOffices.INVALID, r -> r.shut(odd, 0));
+        for (int odd : new int[] {-1, 2, LEAST, GREATEST}) Check.refused("shut: isOpen", x, RingOffices.INVALID, r -> r.shut(0, odd));
+        Check.refused("shut: it is open", x, RingOffices.NOT_FOUND, r -> r.shut(0, 1));
         x.letter(0, 1, 3);
         x.minute(2);
         Check.due("shut: a token AT it", x.shut(0, 0), 1);
@@ -95,7 +82,7 @@ public final class OperationsTest {
         Check.due("shut: lost", x.value(16), 1);
         Check.due("shut: SPOKEN stays", x.office(0, 3), 1);
         Check.due("shut: SILENCE is as it was", x.value(7), 0);
-        refused("shut: it is shut", x, RingOffices.NOT_FOUND, r -> r.shut(0, 0));
+        Check.refused("shut: it is shut", x, RingOffices.NOT_FOUND, r -> r.shut(0, 0));
         Check.due("open", x.shut(0, 1), 0);
         Check.dueText("open: nothing else", Check.list(x), "0:40/3>1\n1:70\n2:20\n");
         Check.dueText("open: log", Check.log(x), "0 0 3;7 0 0;5 1 0;7 0 1;");
@@ -116,25 +103,25 @@ public final class OperationsTest {
         x.stray(1);
         x.minute(2);
         x.stray(2);
-        for (int odd : new int[] {-1, 3, LEAST, GREATEST}) refused("lose: token", x, RingOffices.INVALID, r -> r.lose(odd));
+        for (int odd : new int[] {-1, 3, LEAST, GREATEST}) Check.refused("lose: token", x, RingOffices.INVALID, r -> r.lose(odd));
         Check.dueText("lose: the tokens", Check.tokens(x), "1 0 0 1 3;2 2 2 0 0;3 2 0 0 0;");
         Check.due("lose: ON THE WAY", x.lose(1), 2);
         Check.dueText("lose: those that are left", Check.tokens(x), "1 0 0 1 3;3 2 0 0 0;");
         Check.due("lose: SPEAKING", x.lose(0), 1);
         Check.dueText("lose: the letter stays", Check.list(x), "0:40/4>1\n1:70\n2:20@3\n");
         Check.due("lose: its LEFT is its LENGTH", x.queue(0, 0, 2), 4);
-        refused("lose: there is only one", x, RingOffices.INVALID, r -> r.lose(1));
+        Check.refused("lose: there is only one", x, RingOffices.INVALID, r -> r.lose(1));
         Check.due("lose: the last one", x.lose(0), 3);
-        refused("lose: there is none", x, RingOffices.INVALID, r -> r.lose(0));
+        Check.refused("lose: there is none", x, RingOffices.INVALID, r -> r.lose(0));
         Check.due("lost", x.value(16), 3);
         Check.dueText("lose: log", Check.log(x), "0 0 4;6 2 1;6 3 2;5 2 2;5 1 0;5 3 2;");
     }
 
     private static void stray() {
         RingOffices x = new RingOffices();
-        for (int odd : new int[] {-1, 3, LEAST, GREATEST}) refused("stray: office", x, RingOffices.INVALID, r -> r.stray(odd));
+        for (int odd : new int[] {-1, 3, LEAST, GREATEST}) Check.refused("stray: office", x, RingOffices.INVALID, r -> r.stray(odd));
         x.shut(2, 0);
-        refused("stray: shut", x, RingOffices.WRONG_STATE, r -> r.stray(2));
+        Check.refused("stray: shut", x, RingOffices.WRONG_STATE, r -> r.stray(2));
         x.letter(0, 1, 4);
         x.minute(3);
         Check.due("stray: to the one that speaks", x.stray(0), 2);
@@ -163,25 +150,25 @@ public final class OperationsTest {
         Check.dueText("stray: by NUMBERS", Check.tokens(x), "2 1 0 0 0;3 2 0 0 0;4 0 0 0 0;");
         for (int o = 0; o < 3; o++) {
             int office = o;
-            refused("stray: FULL at " + o, x, RingOffices.FULL, r -> r.stray(office));
+            Check.refused("stray: FULL at " + o, x, RingOffices.FULL, r -> r.stray(office));
         }
         x.minute(1);
-        refused("stray: FULL, all on the way", x, RingOffices.FULL, r -> r.stray(0));
+        Check.refused("stray: FULL, all on the way", x, RingOffices.FULL, r -> r.stray(0));
         x.shut(1, 0);
-        refused("stray: WRONG_STATE comes first", x, RingOffices.WRONG_STATE, r -> r.stray(1));
-        refused("stray: INVALID comes first", x, RingOffices.INVALID, r -> r.stray(3));
+        Check.refused("stray: WRONG_STATE comes first", x, RingOffices.WRONG_STATE, r -> r.stray(1));
+        Check.refused("stray: INVALID comes first", x, RingOffices.INVALID, r -> r.stray(3));
     }
 
     private static void set() {
         RingOffices x = new RingOffices();
-        for (int odd : new int[] {-1, 3, LEAST, GREATEST}) refused("set: office", x, RingOffices.INVALID, r -> r.set(odd, 0, 5));
-        for (int odd : new int[] {-1, 2, LEAST, GREATEST}) refused("set: what", x, RingOffices.INVALID, r -> r.set(0, odd, 5));
-        for (int odd : new int[] {-1, 0, 10, 70, LEAST, GREATEST}) refused("set: WAY", x, RingOffices.INVALID, r -> r.set(0, 0, odd));
-        for (int odd : new int[] {-1, 0, 100, LEAST, GREATEST}) refused("set: NAME", x, RingOffices.INVALID, r -> r.set(0, 1, odd));
-        refused("set: WAY as it is", x, RingOffices.NOT_FOUND, r -> r.set(1, 0, 3));
-        refused("set: NAME as it is", x, RingOffices.NOT_FOUND, r -> r.set(1, 1, 70));
-        refused("set: NAME of another one", x, RingOffices.WRONG_STATE, r -> r.set(1, 1, 20));
-        refused("set: NAME of another one", x, RingOffices.WRONG_STATE, r -> r.set(2, 1, 40));
+        for (int odd : new int[] {-1, 3, LEAST, GREATEST}) Check.refused("set: office", x, RingOffices.INVALID, r -> r.set(odd, 0, 5));
+        for (int odd : new int[] {-1, 2, LEAST, GREATEST}) Check.refused("set: what", x, RingOffices.INVALID, r -> r.set(0, odd, 5));
+        for (int odd : new int[] {-1, 0, 10, 70, LEAST, GREATEST}) Check.refused("set: WAY", x, RingOffices.INVALID, r -> r.set(0, 0, odd));
+        for (int odd : new int[] {-1, 0, 100, LEAST, GREATEST}) Check.refused("set: NAME", x, RingOffices.INVALID, r -> r.set(0, 1, odd));
+        Check.refused("set: WAY as it is", x, RingOffices.NOT_FOUND, r -> r.set(1, 0, 3));
+        Check.refused("set: NAME as it is", x, RingOffices.NOT_FOUND, r -> r.set(1, 1, 70));
+        Check.refused("set: NAME of another one", x, RingOffices.WRONG_STATE, r -> r.set(1, 1, 20));
+        Check.refused("set: NAME of another one", x, RingOffices.WRONG_STATE, r -> r.set(2, 1, 40));
         x.minute(1);
         Check.due("set: WAY of another one may be", x.set(1, 0, 1), 3);
         Check.due("set: WAY", x.set(0, 0, 9), 2);
@@ -197,13 +184,13 @@ public final class OperationsTest {
 
     private static void rule() {
         RingOffices x = new RingOffices();
-        for (int odd : new int[] {-1, 3, LEAST, GREATEST}) refused("rule: what", x, RingOffices.INVALID, r -> r.rule(odd, 5));
+        for (int odd : new int[] {-1, 3, LEAST, GREATEST}) Check.refused("rule: what", x, RingOffices.INVALID, r -> r.rule(odd, 5));
         int[] most = {20, 99, 60};
         int[] former = {6, 10, 30};
         for (int w = 0; w < 3; w++) {
             int what = w;
-            for (int odd : new int[] {-1, 0, most[w] + 1, LEAST, GREATEST}) refused("rule: value", x, RingOffices.INVALID, r -> r.rule(what, odd));
-            refused("rule: as it is", x, RingOffices.NOT_FOUND, r -> r.rule(what, former[what]));
+            for (int odd : new int[] {-1, 0, most[w] + 1, LEAST, GREATEST}) Check.refused("rule: value", x, RingOffices.INVALID, r -> r.rule(what, odd));
+            Check.refused("rule: as it is", x, RingOffices.NOT_FOUND, r -> r.rule(what, former[what]));
             Check.due("rule: least", x.rule(w, 1), former[w]);
             Check.due("rule: least it is", x.value(w), 1);
             Check.due("rule: greatest", x.rule(w, most[w]), 1);
@@ -215,16 +202,16 @@ public final class OperationsTest {
     private static void keepAndRestore() {
         RingOffices x = new RingOffices();
         for (int odd : new int[] {-1, 2, LEAST, GREATEST}) {
-            refused("keep", x, RingOffices.INVALID, r -> r.keep(odd));
-            refused("restore", x, RingOffices.INVALID, r -> r.restore(odd));
+            Check.refused("keep", x, RingOffices.INVALID, r -> r.keep(odd));
+            Check.refused("restore", x, RingOffices.INVALID, r -> r.restore(odd));
         }
-        refused("restore: empty", x, RingOffices.NOT_FOUND, r -> r.restore(0));
+        Check.refused("restore: empty", x, RingOffices.NOT_FOUND, r -> r.restore(0));
         x.letter(0, 1, 3);
         x.minute(7);
         x.stray(2);
         String kept = Check.all(x);
-        refused("keep 1", x, 7, r -> r.keep(1));
-        refused("restore: the other one is empty", x, RingOffices.NOT_FOUND, r -> r.restore(0));
+        Check.refused("keep 1", x, 7, r -> r.keep(1));
+        Check.refused("restore: the other one is empty", x, RingOffices.NOT_FOUND, r -> r.restore(0));
         x.rule(0, 9);
         x.rule(1, 2);
         x.rule(2, 9);
@@ -257,7 +244,7 @@ public final class OperationsTest {
 
     private static void undo() {
         RingOffices x = new RingOffices();
-        refused("undo: nothing", x, RingOffices.INVALID, RingOffices::undo);
+        Check.refused("undo: nothing", x, RingOffices.INVALID, RingOffices::undo);
         String[] before = new String[13];
         for (int i = 0; i < 12; i++) {
             before[i] = Check.all(x);
@@ -269,7 +256,7 @@ public final class OperationsTest {
             Check.due("undo " + i, x.undo(), i - 4);
             Check.dueText("undo " + i, Check.all(x), before[i]);
         }
-        refused("undo: the ninth is forgotten", x, RingOffices.INVALID, RingOffices::undo);
+        Check.refused("undo: the ninth is forgotten", x, RingOffices.INVALID, RingOffices::undo);
         x.minute(1);
         x.minute(2);
         String two = Check.all(x);
@@ -295,7 +282,7 @@ public final class OperationsTest {
         Check.dueText("restore: the entries that had given way are back", Check.all(x), before);
     }
 
-    private static void undone(String name, RingOffices x, Call call) {
+    private static void undone(String name, RingOffices x, Check.Call call) {
         String before = Check.all(x);
         int undoable = x.value(20);
         if (call.on(x) < 0) Check.due(name + " refused", 1, 0);

@@ -140,81 +140,72 @@ public final class TextsTest {
         Check.due("good load: errorPosition", x.errorPosition(), RingOffices.NOT_FOUND);
     }
 
-    /** A text in which a bar stands ahead of the first byte of what cannot stand there. */
-    private static void fault(String marked) {
-        int bar = marked.indexOf('|');
-        String text = marked.substring(0, bar) + marked.substring(bar + 1);
-        RingOffices x = new RingOffices();
-        Check.due("load [" + marked + "]", Check.load(x, text), RingOffices.INVALID);
-        Check.due("errorPosition [" + marked + "]", x.errorPosition(), bar);
-    }
-
     private static void errorPositions() {
-        fault("|");
-        fault("  \n|");
-        fault("|;");
-        fault("|office 1 1;");
-        fault("|speaks 1 quiet");
-        fault("|speakz");
-        fault("|zpeak 1 quiet 1");
-        fault("|Speak 1");
-        fault("|s");
-        fault("|spea k");
-        fault("speak |S");
-        fault("speak |quiet");
-        fault("speak 1 |1");
-        fault("speak |123 quiet");
-        fault("speak |006 quiet");
-        fault("speak 1|\t");
-        fault("speak 1|;");
-        fault("speak 1|x");
-        fault("speak 1 |quote 1");
-        fault("speak 1 |quota 1");
-        fault("speak 1 quiet 1 |quiet 1");
-        fault("speak 1 quiet 1 quota 1 |office");
-        fault("speak 1 quiet 1 quota 1|");
-        fault("speak 1 quiet 1 quota 1; \n |");
-        fault(RULES + "|letter 0 1 1;");
-        fault(RULES + "office 1 1;|letter 0 1 1;");
-        fault(RULES + "office 1 1;|token 0;");
-        fault(RULES + "office 1 1;|;");
-        fault(RULES + "office |shut 1 1;");
-        fault(RULES + "office 1 |shut 1;");
-        fault(RULES + "office 1 1 shut |shut;");
-        fault(RULES + "office 1 1 |1;");
-        fault(RULES + "office 1 1 |office");
-        fault(RULES + "office 1 1;office 1 |1;");
-        fault(RULES + "office 1 1 shut;office 1 |01;");
-        fault(RULES + "office 1 1;office 1 2;office 1 |2;");
-        fault(RULES + "office 1 1;office 1 2|:");
-        fault(TWO + "|shut;");
-        fault(TWO + "|7");
-        fault(TWO + "|speak 6");
-        fault(TWO + "letter 0 1 1|");
-        fault(TWO + "letter 0 1 1 |token 0;");
-        fault(TWO + "letter 0 1 1;|office 1 1;");
-        fault(TWO + "letter 0 |0 1;");
-        fault(TWO + "letter 1 |01 1;");
-        fault(TWO + "letter |;");
-        fault(TWO + "token |;");
-        fault(TWO + "token 0|");
-        fault(TWO + "token 0 |0");
-        fault(TWO + "token 0;|token 1;");
-        fault(TWO + "token 0;|letter 0 1 1;");
-        fault(TWO + "token 0;|office 1 1;");
-        fault(TWO + "token 0;|.");
-        fault(TWO + "|{");
-        fault(TWO + "|`");
-        fault(TWO + "|/");
-        fault(TWO + "|:");
-        fault(TWO + "|" + (char) 0);
-        fault(TWO + "|" + (char) 160);
-        fault(TWO + "|\r\n");
-        fault(RULES + "office 1 5;office 2 6 shut;token |1;");
-        fault(RULES + "office 1 5 shut;office 2 6;token |0;");
-        fault("|speak" + "a".repeat(1100));
-        fault("speak |" + "1".repeat(1100));
-        fault(" ".repeat(1200) + "|");
+        Check.fault("|");
+        Check.fault("  \n|");
+        Check.fault("|;");
+        Check.fault("|office 1 1;");
+        Check.fault("|speaks 1 quiet");
+        Check.fault("|speakz");
+        Check.fault("|zpeak 1 quiet 1");
+        Check.fault("|Speak 1");
+        Check.fault("|s");
+        Check.fault("|spea k");
+        Check.fault("speak |S");
+        Check.fault("speak |quiet");
+        Check.fault("speak 1 |1");
+        Check.fault("speak |123 quiet");
+        Check.fault("speak |006 quiet");
+        Check.fault("speak 1|\t");
+        Check.fault("speak 1|;");
+        Check.fault("speak 1|x");
+        Check.fault("speak 1 |quote 1");
+        Check.fault("speak 1 |quota 1");
+        Check.fault("speak 1 quiet 1 |quiet 1");
+        Check.fault("speak 1 quiet 1 quota 1 |office");
+        Check.fault("speak 1 quiet 1 quota 1|");
+        Check.fault("speak 1 quiet 1 quota 1; \n |");
+        Check.fault(RULES + "|letter 0 1 1;");
+        Check.fault(RULES + "office 1 1;|letter 0 1 1;");
+        Check.fault(RULES + "office 1 1;|token 0;");
+        Check.fault(RULES + "office 1 1;|;");
+        Check.fault(RULES + "office |shut 1 1;");
+        Check.fault(RULES + "office 1 |shut 1;");
+        Check.fault(RULES + "office 1 1 shut |shut;");
+        Check.fault(RULES + "office 1 1 |1;");
+        Check.fault(RULES + "office 1 1 |office");
+        Check.fault(RULES + "office 1 1;office 1 |1;");
+        Check.fault(RULES + "office 1 1 shut;office 1 |01;");
+        Check.fault(RULES + "office 1 1;office 1 2;office 1 |2;");
+        Check.fault(RULES + "office 1 1;office 1 2|:");
+        Check.fault(TWO + "|shut;");
+        Check.fault(TWO + "|7");
+        Check.fault(TWO + "|speak 6");
+        Check.fault(TWO + "letter 0 1 1|");
+        Check.fault(TWO + "letter 0 1 1 |token 0;");
+        Check.fault(TWO + "letter 0 1 1;|office 1 1;");
+        Check.fault(TWO + "letter 0 |0 1;");
+        Check.fault(TWO + "letter 1 |01 1;");
+        Check.fault(TWO + "letter |;");
+        Check.fault(TWO + "token |;");
+        Check.fault(TWO + "token 0|");
+        Check.fault(TWO + "token 0 |0");
+        Check.fault(TWO + "token 0;|token 1;");
+        Check.fault(TWO + "token 0;|letter 0 1 1;");
+        Check.fault(TWO + "token 0;|office 1 1;");
+        Check.fault(TWO + "token 0;|.");
+        Check.fault(TWO + "|{");
+        Check.fault(TWO + "|`");
+        Check.fault(TWO + "|/");
+        Check.fault(TWO + "|:");
+        Check.fault(TWO + "|" + (char) 0);
+        Check.fault(TWO + "|" + (char) 160);
+        Check.fault(TWO + "|\r\n");
+        Check.fault(RULES + "office 1 5;office 2 6 shut;token |1;");
+        Check.fault(RULES + "office 1 5 shut;office 2 6;token |0;");
+        Check.fault("|speak" + "a".repeat(1100));
+        Check.fault("speak |" + "1".repeat(1100));
+        Check.fault(" ".repeat(1200) + "|");
     }
 
     private static void ranges() {
@@ -229,12 +220,12 @@ public final class TextsTest {
             Check.due(ahead[i] + least[i], Check.load(x, ahead[i] + least[i] + behind[i]), 2);
             Check.due(ahead[i] + most[i], Check.load(x, ahead[i] + most[i] + behind[i]), 2);
             // A letter of the office 0 may stand as such; here its TO is what can't.
-            if (least[i] > 0 && i != 5) fault(ahead[i] + "|0" + behind[i]);
-            if (least[i] > 0 && i != 5) fault(ahead[i] + "|00" + behind[i]);
-            fault(ahead[i] + "|" + (most[i] + 1) + behind[i]);
-            fault(ahead[i] + "|1000" + behind[i]);
-            fault(ahead[i] + "|;");
-            fault(ahead[i] + "|");
+            if (least[i] > 0 && i != 5) Check.fault(ahead[i] + "|0" + behind[i]);
+            if (least[i] > 0 && i != 5) Check.fault(ahead[i] + "|00" + behind[i]);
+            Check.fault(ahead[i] + "|" + (most[i] + 1) + behind[i]);
+            Check.fault(ahead[i] + "|1000" + behind[i]);
+            Check.fault(ahead[i] + "|;");
+            Check.fault(ahead[i] + "|");
         }
     }
 
@@ -242,14 +233,14 @@ public final class TextsTest {
         StringBuilder text = new StringBuilder(RULES);
         for (int o = 0; o < 10; o++) text.append("office 1 ").append(o + 1).append(';');
         String ten = text.toString();
-        fault(ten + "|office 1 11;");
-        fault(ten + "letter |10 0 1;");
-        fault(ten + "letter 0 |10 1;");
-        fault(ten + "token |10;");
+        Check.fault(ten + "|office 1 11;");
+        Check.fault(ten + "letter |10 0 1;");
+        Check.fault(ten + "letter 0 |10 1;");
+        Check.fault(ten + "token |10;");
         for (int i = 0; i < 6; i++) text.append("letter 3 0 1;");
-        fault(text + "letter |3 0 1;");
-        fault(text + "letter |3");
-        fault(text + "letter 4 0 1;letter |3 0 1;");
+        Check.fault(text + "letter |3 0 1;");
+        Check.fault(text + "letter |3");
+        Check.fault(text + "letter 4 0 1;letter |3 0 1;");
         for (int o = 0; o < 10; o++) {
             for (int i = 0; i < 6; i++) if (o != 3) text.append("letter ").append(o).append(o == 0 ? " 1 1;" : " 0 1;");
         }
@@ -257,9 +248,9 @@ public final class TextsTest {
         Check.due("60 letters", Check.load(x, text + "token 9;"), 10);
         Check.due("60 letters came", x.value(10), 60);
         Check.due("60 letters in the queues", x.value(8), 60);
-        fault(text + "letter |9 0 1;");
-        fault(text + "letter |0 1 1;");
-        fault(text + "letter|");
+        Check.fault(text + "letter |9 0 1;");
+        Check.fault(text + "letter |0 1 1;");
+        Check.fault(text + "letter|");
         x = new RingOffices();
         Check.load(x, text.toString());
         StringBuilder again = new StringBuilder(TWO);

@@ -266,6 +266,12 @@ public final class EdgesOfTextsTest {
         x = tenFull();
         Check.load(x, TWO + "token 2;");
         Check.due("an office that was open is none", x.errorPosition(), TWO.length() + 6);
+        x = new RingOffices();
+        x.lose(0);
+        x.minute(3);
+        x.ifPassed(2, 0);
+        Check.load(x, TWO);
+        Check.due("SILENCE, also as more of it was looked at", x.value(7), 0);
         x = tenFull();
         Check.load(x, RULES + "office 1 90;office 2 99;");
         Check.due("NAMES that were taken are free", x.errorPosition(), NOT_FOUND);
